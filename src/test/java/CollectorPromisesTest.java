@@ -146,6 +146,31 @@ public final class CollectorPromisesTest {
         Due.is("16: count(0)", x.count(0), 2);
     }
 
+    private static void notesWhatSetPutsIntoANewObject() {
+        FiberHeap x = new FiberHeap();
+        x.spawn(0, -1);
+        x.spawn(0, -1);
+        x.make(2, 0, 2, 0);
+        x.collect();
+        x.make(2, 1, 1, 1);
+        Due.is("16: fiber 2 is not scanned: fiber(2, 3)", x.fiber(2, 3), 0);
+        x.set(2, 1, 0, 0);
+        x.copy(2, 0, -1);
+        Due.is("16: what a NEW object points to: mark(9)", x.mark(9), 2);
+        x.sweep(9);
+        Due.is("16: count(0)", x.count(0), 2);
+    }
+
+    private static void takeAloneNotesNothing() {
+        FiberHeap x = new FiberHeap();
+        x.make(0, 0, 2, 0);
+        x.copy(0, 0, -1);
+        x.send(0, 0, 1);
+        x.collect();
+        x.take(0, 0, 1, 1);
+        Due.is("16: a NIL was taken: mark(9)", x.mark(9), 1);
+    }
+
     private static void notesOnlyASetThatIsDone() {
         FiberHeap x = new FiberHeap();
         x.spawn(0, -1);
@@ -406,6 +431,8 @@ public final class CollectorPromisesTest {
         promise16Shrinks();
         notesWhatSetTakesAway();
         notesWhatSetPutsIn();
+        notesWhatSetPutsIntoANewObject();
+        takeAloneNotesNothing();
         notesOnlyASetThatIsDone();
         notesTheChannels();
         notesWhatEntersAChannel();

@@ -195,8 +195,11 @@ public final class FiberPromisesTest {
         Due.no("6: leave(0)", x.leave(0));
         x.call(0);
         x.call(0);
+        x.copy(0, 0, -1);
         x.leave(0);
+        Due.is("6: with frames below: fiber(0, 4)", x.fiber(0, 4), FiberHeap.NIL);
         x.leave(0);
+        Due.is("6: fiber(0, 4)", x.fiber(0, 4), FiberHeap.NIL);
         Due.is("6: the room stays: fiber(0, 2)", x.fiber(0, 2), 4);
         Due.is("6: count(8)", x.count(8), 2);
     }

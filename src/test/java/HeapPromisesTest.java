@@ -86,6 +86,36 @@ public final class HeapPromisesTest {
         Due.is("9: make(0, 0, 16, 0)", y.make(0, 0, 16, 0), 160);
     }
 
+    private static void promise9ShorterRunBehindALongerOne() {
+        FiberHeap x = new FiberHeap();
+        x.make(0, 0, 64, 0);
+        x.make(0, 1, 16, 0);
+        x.make(0, 0, 32, 0);
+        x.make(0, 2, 64, 0);
+        x.make(0, 3, 64, 0);
+        x.copy(0, 0, -1);
+        x.mark(99);
+        x.collect();
+        x.mark(99);
+        x.sweep(16);
+        Due.is("20: runs of 4, 2 and 1: count(2)", x.count(2), 7);
+        Due.is("20: count(3)", x.count(3), 4);
+        Due.is("9: make(0, 0, 32, 0)", x.make(0, 0, 32, 0), 80);
+        Due.is("9: at the end of the heap: make(0, 0, 1, 0)", x.make(0, 0, 1, 0), 240);
+        Due.is("9: make(0, 0, 3, 0)", x.make(0, 0, 3, 0), 0);
+    }
+
+    private static void promise9LargeOnesSweepNothing() {
+        FiberHeap x = new FiberHeap();
+        x.make(0, 0, 16, 0);
+        x.make(0, 0, 16, 0);
+        x.collect();
+        x.mark(99);
+        Due.is("9: not the span of a freed one: make(0, 1, 16, 0)", x.make(0, 1, 16, 0), 32);
+        Due.is("9: count(5)", x.count(5), 2);
+        Due.is("9: count(11)", x.count(11), 0);
+    }
+
     private static void promise9BeginsACycle() {
         FiberHeap x = new FiberHeap();
         x.make(0, 0, 48, 0);
@@ -264,6 +294,10 @@ public final class HeapPromisesTest {
         Due.is("13: load(0, 0, 4)", x.load(0, 0, 4), Integer.MIN_VALUE);
         Due.is("13: load(0, 1, 63)", x.load(0, 1, 63), -9);
         Due.is("13: load(0, 1, 0)", x.load(0, 1, 0), 0);
+        x.make(0, 3, 6, 3);
+        Due.no("12: of a later object: store(0, 3, 2, 6)", x.store(0, 3, 2, 6));
+        Due.yes("12: store(0, 3, 3, 6)", x.store(0, 3, 3, 6));
+        Due.is("13: load(0, 3, 3)", x.load(0, 3, 3), 6);
         Due.no("12: a pointer word: store(0, 0, 1, 7)", x.store(0, 0, 1, 7));
         Due.is("13: a pointer word: load(0, 0, 1)", x.load(0, 0, 1), 0);
         Due.no("12: beyond its words: store(0, 0, 5, 7)", x.store(0, 0, 5, 7));
@@ -320,6 +354,8 @@ public final class HeapPromisesTest {
         promise9LowestSlotFirst();
         promise9ThroughTheRef();
         promise9ShortestRun();
+        promise9ShorterRunBehindALongerOne();
+        promise9LargeOnesSweepNothing();
         promise9BeginsACycle();
         promise9SweepsAsItGoes();
         promise9SweepsAllBeforeItGivesUp();
