@@ -1,9 +1,13 @@
 import java.util.Arrays;
 import java.util.Random;
 
-/** Long runs of calls, always the same ones, on the program and on the model side by side. */
+/**
+ * Long runs of calls, always the same ones, on the program and on the model side by side. Each answer is compared, and
+ * at the end of a run all that can be seen; the runs are of all lengths, so that all states come to be seen.
+ */
 public final class RandomRunsTest {
-    private static final int CALLS = 512;
+    // What is promised ends with the 512th call, and the questions at the end are calls too.
+    private static final int MOST_CALLS = 512 - Seen.QUESTIONS;
     private static final int[] ODD = {Integer.MIN_VALUE, -3, -2, -1, 4, 5, 6, 7, 16, 64, 65, Integer.MAX_VALUE};
 
     private static final String[] NAMES = {"spawn", "end", "wake", "call", "leave", "aim", "copy", "make", "set", "get",
@@ -11,11 +15,11 @@ public final class RandomRunsTest {
 
     // How often each call of NAMES comes up, a row a kind of run.
     private static final int[][] KINDS = {
-        {3, 1, 4, 4, 4, 3, 6, 14, 14, 8, 6, 4, 6, 6, 6, 2, 2, 1, 1, 1},
-        {1, 1, 2, 2, 2, 1, 8, 40, 20, 6, 2, 2, 1, 1, 3, 1, 1, 0, 0, 0},
-        {4, 1, 6, 2, 2, 2, 3, 6, 3, 3, 1, 1, 20, 20, 5, 2, 2, 0, 0, 0},
-        {2, 2, 2, 20, 14, 6, 8, 8, 6, 6, 2, 2, 2, 2, 6, 2, 3, 0, 0, 0},
-        {3, 2, 3, 3, 3, 2, 8, 14, 22, 10, 0, 0, 5, 5, 14, 3, 3, 0, 0, 0},
+        {3, 1, 4, 4, 4, 3, 6, 14, 14, 8, 6, 4, 6, 6, 6, 2, 2, 12, 6, 4},
+        {1, 1, 2, 2, 2, 1, 8, 40, 20, 6, 2, 2, 1, 1, 3, 1, 1, 2, 6, 4},
+        {4, 1, 6, 2, 2, 2, 3, 6, 3, 3, 1, 1, 20, 20, 5, 2, 2, 16, 4, 1},
+        {2, 2, 2, 20, 14, 6, 8, 8, 6, 6, 2, 2, 2, 2, 6, 2, 3, 16, 4, 1},
+        {3, 2, 3, 3, 3, 2, 8, 14, 22, 10, 0, 0, 5, 5, 14, 3, 3, 6, 12, 3},
     };
 
     private final Random random;
@@ -152,32 +156,29 @@ public final class RandomRunsTest {
         }
     }
 
-    private void compare(String call, int got, int want) {
-        Due.is(call, got, want);
+    private void compareAll(String run) {
         int[] seen = Seen.of(program);
         int[] due = Seen.of(model);
         for (int i = 0; i < seen.length; i++) {
-            if (seen[i] != due[i]) {
-                Due.is(call + ": then " + Seen.question(i), seen[i], due[i]);
-            }
-        }
-        if (!model.isSound()) {
-            Due.no(call + ": a pointer leads to no object", true);
+            Due.is(run + ": " + Seen.question(i), seen[i], due[i]);
         }
     }
 
     private void run(long seed, int[] weights) {
-        for (int i = 0; i < CALLS && Due.wrongSoFar() == 0; i++) {
+        int calls = random.nextInt(3) == 0 ? MOST_CALLS : 1 + random.nextInt(MOST_CALLS);
+        for (int i = 0; i < calls && Due.wrongSoFar() == 0; i++) {
             String name = NAMES[pick(random, weights)];
             int[] a = arguments(name);
+            String call = "run " + seed + ", call " + i + ": " + name + Arrays.toString(a);
             int want = ofModel(name, a);
-            int got = ofProgram(name, a);
-            compare("seed " + seed + ", call " + i + ": " + name + Arrays.toString(a), got, want);
+            Due.is(call, ofProgram(name, a), want);
+            Due.yes(call + ": every pointer leads to an object", model.isSound());
         }
+        compareAll("run " + seed + ", after " + calls + " calls");
     }
 
     public static void main(String[] args) {
-        int seeds = args.length > 0 ? Integer.parseInt(args[0]) : 600;
+        int seeds = args.length > 0 ? Integer.parseInt(args[0]) : 3000;
         for (int seed = 1; seed <= seeds && Due.wrongSoFar() == 0; seed++) {
             new RandomRunsTest(seed).run(seed, KINDS[seed % KINDS.length]);
         }

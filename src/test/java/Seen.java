@@ -7,6 +7,8 @@ final class Seen {
     private static final int FIBER_QUESTIONS = 10;
     private static final int COUNTS = 12;
     private static final int PAGES = 16;
+    /** How many calls it takes. */
+    static final int QUESTIONS = FIBERS * FIBER_QUESTIONS + COUNTS + PAGES;
 
     private Seen() {
     }
@@ -20,7 +22,7 @@ final class Seen {
     }
 
     private static int[] answers(IntBinaryOperator fiber, IntUnaryOperator count, IntUnaryOperator page) {
-        int[] seen = new int[FIBERS * FIBER_QUESTIONS + COUNTS + PAGES];
+        int[] seen = new int[QUESTIONS];
         int n = 0;
         for (int f = 0; f < FIBERS; f++) {
             for (int what = 0; what < FIBER_QUESTIONS; what++) {
