@@ -538,12 +538,31 @@ public final class FiberBoundsTest {
         x.take(1, 1, 2, 2);
         x.wake(1);
         Due.is("nothing was taken since: fiber(1, 9)", x.fiber(1, 9), 0);
+        x.send(1, 1, 0);
+        x.wake(1);
+        x.send(1, 1, 2);
+        Due.is("nor by sending: fiber(1, 9)", x.fiber(1, 9), 0);
         x.send(0, 1, 1);
         x.take(1, 1, 1, 1);
         Due.is("NIL is a pointer too: fiber(1, 9)", x.fiber(1, 9), 1);
         x.end(1);
         x.spawn(0, -1);
         Due.is("since it began to live: fiber(1, 9)", x.fiber(1, 9), NONE);
+    }
+
+    private static void whereTheRefRefers() {
+        FiberHeap x = new FiberHeap();
+        Due.is("to NONE: fiber(0, 8)", x.fiber(0, 8), NONE);
+        for (int frame = 0; frame < 16; frame++) {
+            for (int k = 0; k < 4; k++) {
+                x.aim(0, k);
+                Due.is("frame " + frame + ", cell " + k + ": fiber(0, 8)", x.fiber(0, 8), 4 * frame + k);
+            }
+            x.call(0);
+            Due.is("as the frame before: fiber(0, 8)", x.fiber(0, 8), 4 * frame + 3);
+        }
+        x.spawn(0, -1);
+        Due.is("to NONE: fiber(1, 8)", x.fiber(1, 8), NONE);
     }
 
     private static void the512thCall() {
@@ -608,6 +627,7 @@ public final class FiberBoundsTest {
         Due.test("19: NONE when f is not 0 .. 5 or what is not 0 .. 9", FiberBoundsTest::questionsOutsideTheirBounds);
         Due.test("19: the others are NONE when it does not live", FiberBoundsTest::questionsAboutOneThatDoesNotLive);
         Due.test("19: 1 when the collector is marking and it is scanned", FiberBoundsTest::scannedIsToldOnlyWhileItIsMarking);
+        Due.test("19: where the REF refers to, NONE if to NONE", FiberBoundsTest::whereTheRefRefers);
         Due.test("19: NONE if it took none", FiberBoundsTest::theChannelOfTheLatestPointer);
     }
 

@@ -20,6 +20,7 @@ public final class RandomRunsTest {
         {4, 1, 6, 2, 2, 2, 3, 6, 3, 3, 1, 1, 20, 20, 5, 2, 2, 16, 4, 1},
         {2, 2, 2, 20, 14, 6, 8, 8, 6, 6, 2, 2, 2, 2, 6, 2, 3, 16, 4, 1},
         {3, 2, 3, 3, 3, 2, 8, 14, 22, 10, 0, 0, 5, 5, 14, 3, 3, 6, 12, 3},
+        {8, 8, 4, 1, 1, 1, 12, 8, 10, 8, 0, 0, 12, 12, 8, 4, 8, 4, 10, 1},
     };
 
     private final Random random;
@@ -178,7 +179,7 @@ public final class RandomRunsTest {
     }
 
     public static void main(String[] args) {
-        int seeds = args.length > 0 ? Integer.parseInt(args[0]) : 3000;
+        int seeds = args.length > 0 ? Integer.parseInt(args[0]) : 6000;
         for (int seed = 1; seed <= seeds && Due.wrongSoFar() == 0; seed++) {
             new RandomRunsTest(seed).run(seed, KINDS[seed % KINDS.length]);
         }
