@@ -4,14 +4,16 @@ import java.lang.reflect.Method;
 import java.lang.reflect.Modifier;
 import java.nio.file.Files;
 import java.nio.file.Path;
+import java.util.HashMap;
 import java.util.HashSet;
 import java.util.List;
+import java.util.Map;
 import java.util.Set;
 import java.util.TreeSet;
 import java.util.regex.Matcher;
 import java.util.regex.Pattern;
 
-/** The rules of LANGUAGE.md that can be seen from outside: the face, the shape of the classes, words that are not used. */
+/** The rules of LANGUAGE.md that a program can look at: the face, the shape of classes, methods and loops, the words. */
 public final class RulesTest {
     private static final List<String> FACE = List.of("int spawn(int, int)", "boolean end(int)", "boolean wake(int)",
         "boolean call(int)", "boolean leave(int)", "boolean aim(int, int)", "boolean copy(int, int, int)",
@@ -24,6 +26,13 @@ public final class RulesTest {
     private static final List<String> ARRAYS = List.of("fill", "copyOf", "copyOfRange");
     private static final String NOT_USED = "\\b(throw|throws|try|catch|finally|synchronized|assert|native|volatile"
         + "|hashCode|random|System\\.(?!arraycopy)\\w+|Thread|package|\\w+Exact)\\b|\\bstatic\\s*\\{|::";
+    private static final List<String> LIBRARY_CLASSES = List.of("Arrays", "System", "Math", "Integer", "Long");
+    private static final int MOST_LINES = 60;
+    private static final int MOST_DEPTH = 8;
+    private static final Pattern METHOD = Pattern.compile(
+        "(?ms)^( {4}| {8})(?=\\w)(?!(?:if|for|while|switch|do)\\b)[\\w\\[\\] ]*?\\b(\\w+)\\([^()]*\\) \\{\n(.*?)^\\1\\}$");
+    private static final Pattern CALLED = Pattern.compile("\\b(\\w+)\\(");
+    private static final Pattern LOOP = Pattern.compile("\\b(?:for|while) \\((.*)\\) \\{");
 
     private static void face() {
         Due.yes("rule 1: the class is public and final", Modifier.isPublic(FiberHeap.class.getModifiers())
@@ -81,6 +90,7 @@ public final class RulesTest {
 
     private static void shape() {
         Due.yes("rule 11: at most twelve classes", allClasses().size() <= 12);
+        Due.is("rule 2: no local or anonymous class", FiberHeap.class.getNestMembers().length, allClasses().size());
         for (Class<?> c : allClasses()) {
             int fields = 0;
             for (Field f : c.getDeclaredFields()) {
@@ -95,8 +105,76 @@ public final class RulesTest {
         }
     }
 
+    private static String withoutComments(String source) {
+        return source.replaceAll("(?s)/\\*.*?\\*/", "").replaceAll("//[^\n]*", "");
+    }
+
+    /** The names of the methods and constructors, each with the names of those that it calls. */
+    private static Map<String, Set<String>> callsOf(String code) {
+        Map<String, String> bodies = new HashMap<>();
+        Matcher method = METHOD.matcher(code);
+        while (method.find()) {
+            String name = method.group(2);
+            Due.no("two methods, one name: their calls can't be told apart: " + name, bodies.containsKey(name));
+            bodies.put(name, method.group(3));
+            Due.yes("rule 11: short: " + name, method.group().lines().count() <= MOST_LINES);
+        }
+        Map<String, Set<String>> calls = new HashMap<>();
+        for (Map.Entry<String, String> entry : bodies.entrySet()) {
+            Set<String> called = new HashSet<>();
+            Matcher call = CALLED.matcher(entry.getValue());
+            while (call.find()) {
+                called.add(call.group(1));
+            }
+            called.retainAll(bodies.keySet());
+            calls.put(entry.getKey(), called);
+        }
+        return calls;
+    }
+
+    private static int depth(String name, Map<String, Set<String>> calls, Set<String> open) {
+        if (!open.add(name)) {
+            Due.no("rule 8: a recursion: " + name, true);
+            return 0;
+        }
+        int deepest = 0;
+        for (String called : calls.get(name)) {
+            deepest = Math.max(deepest, depth(called, calls, open));
+        }
+        open.remove(name);
+        return deepest + 1;
+    }
+
+    private static void methods(String code) {
+        Map<String, Set<String>> calls = callsOf(code);
+        int declared = 0;
+        for (Class<?> c : allClasses()) {
+            declared += c.getDeclaredMethods().length + c.getDeclaredConstructors().length;
+        }
+        Due.is("every method was looked at", calls.size(), declared);
+        for (String name : calls.keySet()) {
+            Due.yes("rule 11: at most eight deep: " + name, depth(name, calls, new HashSet<>()) <= MOST_DEPTH);
+        }
+        Matcher loop = LOOP.matcher(code);
+        while (loop.find()) {
+            Due.yes("rule 9: a counter against a bound: " + loop.group(), loop.group(1).contains(" < "));
+        }
+        Due.no("rule 9: a loop of another form", code.contains("do {"));
+    }
+
+    private static void libraryClasses(String code) {
+        Set<String> known = new HashSet<>(LIBRARY_CLASSES);
+        for (Class<?> c : allClasses()) {
+            known.add(c.getSimpleName());
+        }
+        Matcher used = Pattern.compile("\\b([A-Z][a-z]\\w*)\\.\\w+\\(").matcher(code);
+        while (used.find()) {
+            Due.yes("rule 4: " + used.group(), known.contains(used.group(1)));
+        }
+    }
+
     private static void words(String source) {
-        String code = source.replaceAll("(?s)/\\*.*?\\*/", "").replaceAll("//[^\n]*", "");
+        String code = withoutComments(source);
         Matcher found = Pattern.compile(NOT_USED).matcher(code);
         while (found.find()) {
             Due.no("not in the language: " + found.group(), true);
@@ -121,7 +199,10 @@ public final class RulesTest {
     public static void main(String[] args) throws Exception {
         face();
         shape();
-        words(Files.readString(Path.of("src/main/java/FiberHeap.java")));
+        String source = Files.readString(Path.of("src/main/java/FiberHeap.java"));
+        methods(withoutComments(source));
+        libraryClasses(withoutComments(source));
+        words(source);
         Due.close();
     }
 }
